@@ -827,9 +827,9 @@ public final class TowerService {
     /** POSTING: persons are put one behind the other, each as low as can be first. */
     private static final class Posting {
         private final Tower trial;
-        private final int[] home = new int[MOST_PERSONS];
+        private final int[] places = new int[MOST_PERSONS];
+        private final int[] easier = new int[MOST_WORKS];
         private final int[] crowd = new int[MOST_STEPS];
-        private int workSteps;
         private int waiting;
         final int[] best = new int[MOST_PERSONS];
         int most;
@@ -843,32 +843,67 @@ public final class TowerService {
             trial.standAs(tower);
             most = -1;
             waiting = trial.plan.persons - trial.goneMany();
-            workSteps = 0;
-            for (int w = 0; w < trial.plan.works; w++) {
-                workSteps |= 1 << trial.plan.workStep[w];
-            }
             for (int s = 0; s < MOST_STEPS; s++) {
                 crowd[s] = 0;
             }
-            for (int p = 0; p < MOST_PERSONS; p++) {
-                home[p] = tower.step[p];
-                best[p] = NONE;
+            for (int w = 0; w < trial.plan.works; w++) {
+                easier[w] = needOfNextEasier(w);
             }
-            putFrom(0);
+            boolean allHavePlaces = true;
+            for (int p = 0; p < trial.plan.persons; p++) {
+                places[p] = placesOf(p);
+                allHavePlaces = allHavePlaces && (trial.gone[p] || places[p] != 0);
+            }
+            if (allHavePlaces) {
+                putFrom(0);
+            }
+        }
+
+        /** Steps where one may be put and would not be frozen if all others came along. */
+        private int placesOf(int p) {
+            int bits = 1 << trial.step[p];
+            for (int w = 0; w < trial.plan.works; w++) {
+                bits |= 1 << trial.plan.workStep[w];
+            }
+            for (int s = 0; s < trial.plan.steps; s++) {
+                if (isFrozenAmong(p, s, waiting - 1)) {
+                    bits &= ~(1 << s);
+                }
+            }
+            return bits;
+        }
+
+        private boolean isFrozenAmong(int p, int s, int others) {
+            return trial.fearAmong(trial.plan.kind[p], trial.age[p], s, others) > trial.nerve[p];
+        }
+
+        private int needOfNextEasier(int w) {
+            int need = 0;
+            for (int v = 0; v < trial.plan.works; v++) {
+                if (trial.plan.workStep[v] == trial.plan.workStep[w] && isEasier(v, w)) {
+                    need = Math.max(need, trial.plan.workNeed[v]);
+                }
+            }
+            return need;
+        }
+
+        private boolean isEasier(int v, int w) {
+            int less = trial.plan.workNeed[w] - trial.plan.workNeed[v];
+            return less > 0 || less == 0 && v < w;
         }
 
         private void putFrom(int p) {
-            if (mostInReach() <= most) {
+            if (mostInReach() <= most || isSurelyFrozenBefore(p)) {
                 return;
             }
             if (p >= trial.plan.persons) {
-                takeIfNobodyFrozen();
+                takeIfBetter();
             } else if (trial.gone[p]) {
                 putFrom(p + 1);
             } else {
                 waiting--;
                 for (int s = 0; s < trial.plan.steps; s++) {
-                    if (s == home[p] || hasBit(workSteps, s)) {
+                    if (hasBit(places[p], s)) {
                         put(p, s);
                     }
                 }
@@ -877,41 +912,54 @@ public final class TowerService {
         }
 
         private void put(int p, int s) {
-            // Only a singer's fear can still fall, by all who are yet to be put.
-            if (fearAmong(p, s, crowd[s] + waiting) > trial.nerve[p]) {
-                return;
-            }
             trial.step[p] = s;
             crowd[s]++;
             putFrom(p + 1);
             crowd[s]--;
         }
 
-        private int fearAmong(int p, int s, int others) {
-            return trial.fearAmong(trial.plan.kind[p], trial.age[p], s, others);
+        /** Only a singer's fear can still fall, by all who are yet to be put. */
+        private boolean isSurelyFrozenBefore(int end) {
+            for (int p = 0; p < end; p++) {
+                int s = trial.step[p];
+                if (!trial.gone[p] && isFrozenAmong(p, s, crowd[s] - 1 + waiting)) {
+                    return true;
+                }
+            }
+            return false;
         }
 
-        /** No fewer than the works that can be done yet: each as if all who wait went to it. */
+        /** No fewer than the works that can be done yet: those who wait go to the cheapest ones. */
         private int mostInReach() {
+            int left = waiting;
             int many = 0;
-            for (int w = 0; w < trial.plan.works; w++) {
-                if (crowd[trial.plan.workStep[w]] + waiting >= trial.plan.workNeed[w]) {
-                    many++;
+            for (int price = 0; price <= MOST_NEED; price++) {
+                for (int w = 0; w < trial.plan.works; w++) {
+                    if (price <= left && priceOf(w) == price) {
+                        left -= price;
+                        many++;
+                    }
                 }
             }
             return many;
         }
 
-        private void takeIfNobodyFrozen() {
-            for (int p = 0; p < trial.plan.persons; p++) {
-                int s = trial.step[p];
-                if (!trial.gone[p] && fearAmong(p, s, crowd[s] - 1) > trial.nerve[p]) {
-                    return;
-                }
+        /** How many hands a work lacks beyond those that the next easier one on its step lacks. */
+        private int priceOf(int w) {
+            int there = crowd[trial.plan.workStep[w]];
+            return Math.max(trial.plan.workNeed[w] - there, 0) - Math.max(easier[w] - there, 0);
+        }
+
+        private void takeIfBetter() {
+            if (trial.frozenBits() != 0) {
+                return;
             }
-            most = mostInReach();
-            for (int p = 0; p < trial.plan.persons; p++) {
-                best[p] = trial.gone[p] ? NONE : trial.step[p];
+            int many = trial.doneMany();
+            if (many > most) {
+                most = many;
+                for (int p = 0; p < trial.plan.persons; p++) {
+                    best[p] = trial.gone[p] ? NONE : trial.step[p];
+                }
             }
         }
     }
