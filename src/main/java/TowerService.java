@@ -37,7 +37,6 @@ public final class TowerService {
         trial = new Tower(plan);
         past = new Past(plan);
         kept = towersOf(plan, MOST_KEPT);
-        keptMany = 0;
         sights = new Sights();
         bestPosting = new Posting(new Tower(plan));
         bestTimetable = new Timetable(plan);
@@ -309,7 +308,7 @@ public final class TowerService {
         trial.standAs(tower);
         for (int i = 0; i < n; i++) {
             trial.actBy(drawOf(z, i));
-            trial.goYears(1);
+            trial.goYear();
         }
         switch (what) {
             case 0: return trial.goneMany();
@@ -486,35 +485,32 @@ public final class TowerService {
         }
 
         int fearAs(int kind, int p, int s) {
-            return fearAmong(kind, age[p], s, kind == SINGING ? othersOn(p, s) : 0);
+            int others = 0;
+            // Only a singer asks who else is there.
+            for (int q = 0; kind == SINGING && q < plan.persons; q++) {
+                if (q != p && !gone[q] && step[q] == s) {
+                    others++;
+                }
+            }
+            return fearAmong(others, kind, age[p], s);
         }
 
-        int fearAmong(int kind, int years, int s, int others) {
+        int fearAmong(int others, int kind, int years, int s) {
             int above = plan.steps - 1 - s;
             switch (kind) {
                 case BOLD: return above;
-                case SHAKY: return 2 * above + Math.max(years - 20, 0) / 5;
-                case SINGING: return Math.max(2 * above - 2 * others, 0);
+                case SHAKY: return 2 * above + (years > 20 ? (years - 20) / 5 : 0);
+                case SINGING: return above > others ? 2 * (above - others) : 0;
                 default: return 2 * above;
             }
         }
 
-        private int othersOn(int p, int s) {
-            int many = 0;
-            for (int q = 0; q < plan.persons; q++) {
-                if (q != p && !gone[q] && step[q] == s) {
-                    many++;
-                }
-            }
-            return many;
-        }
-
         boolean isFrozen(int p) {
-            return !gone[p] && fearOn(p, step[p]) > nerve[p];
+            return !gone[p] && fearAs(plan.kind[p], p, step[p]) > nerve[p];
         }
 
         boolean isSteady(int p) {
-            return !gone[p] && fearOn(p, step[p]) <= nerve[p];
+            return !gone[p] && fearAs(plan.kind[p], p, step[p]) <= nerve[p];
         }
 
         int frozenBits() {
@@ -580,13 +576,16 @@ public final class TowerService {
             }
         }
 
-        private void goYear() {
+        void goYear() {
             // All are judged before one is changed: a fall would frighten a singer in the same year.
-            int frozen = frozenBits();
+            int frozen = 0;
             int falling = 0;
             for (int p = 0; p < plan.persons; p++) {
-                if (hasBit(frozen, p) && fearOn(p, step[p]) - nerve[p] >= FALLING) {
+                int over = fearOn(p, step[p]) - nerve[p];
+                if (!gone[p] && over >= FALLING) {
                     falling |= 1 << p;
+                } else if (!gone[p] && over > 0) {
+                    frozen |= 1 << p;
                 }
             }
             for (int p = 0; p < plan.persons; p++) {
@@ -874,7 +873,7 @@ public final class TowerService {
         }
 
         private boolean isFrozenAmong(int p, int s, int others) {
-            return trial.fearAmong(trial.plan.kind[p], trial.age[p], s, others) > trial.nerve[p];
+            return trial.fearAmong(others, trial.plan.kind[p], trial.age[p], s) > trial.nerve[p];
         }
 
         private int needOfNextEasier(int w) {
@@ -950,11 +949,12 @@ public final class TowerService {
             return Math.max(trial.plan.workNeed[w] - there, 0) - Math.max(easier[w] - there, 0);
         }
 
+        /** All are put and nobody is frozen: the crowd is the hands that are there. */
         private void takeIfBetter() {
-            if (trial.frozenBits() != 0) {
-                return;
+            int many = 0;
+            for (int w = 0; w < trial.plan.works; w++) {
+                many += asNumber(crowd[trial.plan.workStep[w]] >= trial.plan.workNeed[w]);
             }
-            int many = trial.doneMany();
             if (many > most) {
                 most = many;
                 for (int p = 0; p < trial.plan.persons; p++) {
@@ -1004,7 +1004,7 @@ public final class TowerService {
             if (whom >= 0) {
                 next.goDown(whom);
             }
-            next.goYears(1);
+            next.goYear();
             chosen[year] = whom;
             chooseFrom(year + 1);
         }

@@ -177,6 +177,16 @@ public final class PromiseTest {
         TowerService x = written("p9");
         due(4, "fault() twice", x.fault() * 10 + x.fault(), 0);
         due(4, "a fault changes nothing laid", x.person(0, 2), 12);
+        TowerService y = written("p0,0,12,05;");
+        y.wipe();
+        for (char letter : "p0,0,12,0".toCharArray()) {
+            y.write(letter);
+        }
+        due(4, "letters that were wiped are not read", y.fault(), 0);
+        y.write('5');
+        due(4, "nor the last of them", y.fault(), 0);
+        y.write(';');
+        due(4, "but the one written anew", y.fault(), NONE);
     }
 
     private static void lay() {
@@ -213,6 +223,13 @@ public final class PromiseTest {
         x.pass(1);
         due(5, "lay() with a fault", x.lay(), NO);
         due(5, "all stays behind NO", x.count(3) * 10 + x.count(8), 11);
+        x.wipe();
+        for (char letter : "p0,5,12,5;".toCharArray()) {
+            x.write(letter);
+        }
+        due(5, "without h", x.lay(), 1);
+        due(5, "6 steps again", x.count(0), 6);
+        due(5, "no work any more", x.count(2), 0);
         TowerService fallen = laid("p0,0,12,0;w0,1;");
         fallen.pass(1);
         due(5, "gone", fallen.count(4), 1);
@@ -365,6 +382,9 @@ public final class PromiseTest {
             due(10, "promote(" + p + ")", x.promote(p), BAD);
         }
         due(10, "no year goes by", x.count(3), 1);
+        TowerService y = laid("h2;p0,1,12,2;");
+        due(10, "from 1 to the porch", y.promote(0), 0);
+        due(10, "and no lower", y.promote(0), NO);
     }
 
     private static void hoist() {
@@ -404,6 +424,7 @@ public final class PromiseTest {
         TowerService z = laid("h9;p1,0,12,8;p0,1,12,0;p0,8,12,0;");
         z.pass(1);
         due(12, "one gone above, one steady", z.call(0), 10);
+        due(12, "the first person calls too", laid("p0,5,12,0;p1,0,12,9;").call(1), 10);
     }
 
     private static void undo() {
@@ -491,6 +512,9 @@ public final class PromiseTest {
         TowerService y = laid("h5;p3,3,12,2;p0,1,12,30;p0,1,12,30;p0,1,12,30;");
         due(15, "step by step", y.lowest(0), 3);
         due(15, "though not frozen below", y.fear(0, 1), 0);
+        due(15, "down to the porch", y.lowest(1), 0);
+        due(15, "all the way", laid("h10;p0,9,12,18;").lowest(0), 0);
+        due(15, "all the way but one", laid("h10;p0,9,12,17;").lowest(0), 1);
     }
 
     private static void posting() {
@@ -527,6 +551,13 @@ public final class PromiseTest {
         due(16, "all gone, whom", all.posting(0), NONE);
         TowerService same = laid("h3;p0,2,12,30;p0,2,12,30;w0,2;w0,2;w0,1;w1,1;w2,1;");
         due(16, "works alike on a step", same.posting(-1) * 100 + same.posting(0) * 10 + same.posting(1), 300);
+        TowerService hard = laid("h3;p0,2,12,30;p0,2,12,30;p0,2,12,30;p0,2,12,30;w2,4;w1,2;w0,2;");
+        due(16, "two of two are more than one of four", hard.posting(-1), 2);
+        due(16, "the first of them", hard.posting(0) * 1000 + hard.posting(1) * 100 + hard.posting(2) * 10
+            + hard.posting(3), 11);
+        TowerService hidden = laid("h6;p0,5,12,30;p0,0,12,0;p0,5,12,30;w0,2;w5,1;");
+        hidden.pass(1);
+        due(16, "the one between is gone", hidden.posting(-1) * 100 + hidden.posting(0) * 10 + hidden.posting(2), 100);
     }
 
     private static void timetable() {
@@ -575,6 +606,9 @@ public final class PromiseTest {
         due(18, "on one step", alike.swap(0), NONE);
         due(18, "on one step, how many", alike.swap(1), NONE);
         due(18, "BAD ahead of NONE", alike.swap(2), BAD);
+        TowerService idle = laid("h3;p0,2,12,0;p0,1,12,0;");
+        due(18, "none is done, but there are two", idle.swap(0), 1);
+        due(18, "none is done", idle.swap(1), 0);
         TowerService gone = laid("p0,0,12,0;p0,5,12,30;p0,4,12,30;w4,1;");
         gone.pass(1);
         due(18, "not the gone", gone.swap(0), 12);
@@ -612,6 +646,8 @@ public final class PromiseTest {
         gone.pass(1);
         due(19, "the gone pass nothing", gone.can(0, 0, 0), NONE);
         due(19, "two on the way", laid("h4;p0,3,12,30;p0,2,12,30;p0,1,12,30;").can(3, 1, 0), 2);
+        due(19, "by way of the first person", laid("h6;p0,3,12,30;p0,5,12,30;p0,1,12,30;").can(5, 1, 0), 3);
+        due(19, "to the first person", laid("h6;p0,3,12,30;p0,5,12,30;").can(5, 3, 0), 2);
     }
 
     private static void seen() {
@@ -752,6 +788,7 @@ public final class PromiseTest {
         TowerService alone = laid("h9;p0,0,12,0;");
         due(25, "all are gone", alone.decade(9999, 60, 0), 1);
         due(25, "steps of nobody", alone.decade(9999, 60, 2), 0);
+        due(25, "one alone is promoted", laid("h4;p0,3,12,9;").decade(0, 1, 2), 2);
         int[][] bad = {{-1, 1, 0}, {10000, 1, 0}, {0, 0, 0}, {0, 61, 0}, {0, 1, -1}, {0, 1, 3}, {HIGH, 1, 0}, {0, LOW, 0}};
         for (int[] b : bad) {
             due(25, "decade(" + b[0] + ", " + b[1] + ", " + b[2] + ")", x.decade(b[0], b[1], b[2]), BAD);
