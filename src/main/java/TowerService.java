@@ -815,7 +815,7 @@ public final class TowerService {
 
         boolean wouldHold(Tower tower, int p, int kind, int nerve) {
             for (int i = 0; i < many; i++) {
-                if (who[i] == p && tower.fearAs(kind, p, where[i]) > nerve != frozen[i]) {
+                if (who[i] == p && (tower.fearAs(kind, p, where[i]) > nerve) != frozen[i]) {
                     return false;
                 }
             }
