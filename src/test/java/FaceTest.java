@@ -76,6 +76,11 @@ public final class FaceTest {
         }
         List<Class<?>> classes = new ArrayList<>(List.of(TowerService.class.getDeclaredClasses()));
         check(classes.size() <= 11, "at most some twelve classes");
+        for (Method m : TowerService.class.getDeclaredMethods()) {
+            check(!Modifier.isPrivate(m.getModifiers()) || !names.contains(m.getName()),
+                m + " bears the name of a public method");
+            check(m.getParameterCount() <= 7, m + " takes at most seven");
+        }
         for (Class<?> inside : classes) {
             check(Modifier.isStatic(inside.getModifiers()), inside + " is static");
             check(inside.getDeclaredFields().length <= 20, inside + " has at most some twenty fields");

@@ -35,6 +35,7 @@ public final class PromiseTest {
         keep();
         back();
         count();
+        exampleOfReadme();
         System.out.println(checks + " checks, " + wrong + " wrong");
         if (wrong != 0) {
             System.exit(1);
@@ -884,5 +885,16 @@ public final class PromiseTest {
         for (int what : new int[] {-1, 11, LOW, HIGH}) {
             due(28, "count(" + what + ")", x.count(what), BAD);
         }
+    }
+
+    private static void exampleOfReadme() {
+        TowerService x = written("h4;p0,3,12,5;p3,2,14,2;w3,1;w2,1;");
+        due(4, "README: fault()", x.fault(), NONE);
+        due(5, "README: lay()", x.lay(), 2);
+        due(10, "README: promote(0)", x.promote(0), 2);
+        due(9, "README: pass(1)", x.pass(1), 1);
+        due(28, "README: count(6)", x.count(6), 1);
+        due(17, "README: timetable(2, -1)", x.timetable(2, -1), 1);
+        due(13, "README: undo()", x.undo(), 1);
     }
 }
